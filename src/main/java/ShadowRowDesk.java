@@ -485,9 +485,9 @@ public final class ShadowRowDesk {
             int square = b;
             for (int exponent = PRIME - 2; exponent > 0; exponent >>= 1) {
                 if ((exponent & 1) == 1) {
-                    result = multiply(result, square);
+                    result = result * square % PRIME;
                 }
-                square = multiply(square, square);
+                square = square * square % PRIME;
             }
             return result;
         }
@@ -782,9 +782,10 @@ public final class ShadowRowDesk {
 
         private final int[] letters = new int[TEXT_LIMIT];
 
-        /** Where the TOKEN looked at begins (the length: there is none), and where it ends. */
+        /** The TOKEN looked at: where it begins (the length: there is none), where it ends, its first letter. */
         private int place = 0;
         private int end = 0;
+        private int first = NO_LETTER;
 
         boolean append(int letter) {
             if (length >= TEXT_LIMIT) {
@@ -804,25 +805,21 @@ public final class ShadowRowDesk {
             stepCount = 0;
             end = 0;
             toNextToken();
-            return standsWhole() ? NONE : place;
+            if (!standsSum(0) || first != ';') {
+                return place;
+            }
+            toNextToken();
+            return standsSum(0) && place == length ? NONE : place;
         }
 
         // Each of these goes past what it looks for, or answers false with place at the FAULT.
-
-        private boolean standsWhole() {
-            if (!standsSum(0) || letter() != ';') {
-                return false;
-            }
-            toNextToken();
-            return standsSum(0) && place == length;
-        }
 
         private boolean standsSum(int open) {
             if (!standsProduct(open)) {
                 return false;
             }
-            for (int i = 0; i < TEXT_LIMIT && (letter() == '+' || letter() == '-'); i++) {
-                int sign = letter();
+            for (int i = 0; i < TEXT_LIMIT && (first == '+' || first == '-'); i++) {
+                int sign = first;
                 toNextToken();
                 if (!standsProduct(open)) {
                     return false;
@@ -836,8 +833,8 @@ public final class ShadowRowDesk {
             if (!standsPower(open)) {
                 return false;
             }
-            for (int i = 0; i < TEXT_LIMIT && (letter() == '*' || letter() == '/'); i++) {
-                int sign = letter();
+            for (int i = 0; i < TEXT_LIMIT && (first == '*' || first == '/'); i++) {
+                int sign = first;
                 toNextToken();
                 if (!standsPower(open)) {
                     return false;
@@ -851,11 +848,11 @@ public final class ShadowRowDesk {
             if (!standsThing(open)) {
                 return false;
             }
-            if (letter() != '^') {
+            if (first != '^') {
                 return true;
             }
             toNextToken();
-            if (!isDigit(letter()) || end - place != 1) {
+            if (!isDigit(first) || end - place != 1) {
                 return false;
             }
             addStep('^', amount());
@@ -864,50 +861,34 @@ public final class ShadowRowDesk {
         }
 
         private boolean standsThing(int open) {
-            int first = letter();
+            if (first == 't') {
+                addStep('t', 0);
+                toNextToken();
+                return true;
+            }
             if (isDigit(first)) {
-                return standsNumber();
-            }
-            switch (first) {
-                case 't':
-                    addStep(first, 0);
-                    toNextToken();
-                    return true;
-                case '(':
-                    return standsBracket(open);
-                case 'e':
-                case 'q':
-                case 'l':
-                case 'i':
-                    toNextToken();
-                    if (!standsBracket(open)) {
-                        return false;
-                    }
-                    addStep(first, 0);
-                    return true;
-                default:
+                if (!isNumber()) {
                     return false;
+                }
+                addStep(NUMBER_STEP, amount());
+                toNextToken();
+                return true;
             }
-        }
-
-        private boolean standsNumber() {
-            if (end - place > 4 || !Numbers.holds(amount())) {
-                return false;
+            int name = first;
+            if (isName(name)) {
+                toNextToken();
             }
-            addStep(NUMBER_STEP, amount());
-            toNextToken();
-            return true;
-        }
-
-        private boolean standsBracket(int open) {
-            if (letter() != '(' || open >= OPEN_LIMIT) {
+            if (first != '(' || open >= OPEN_LIMIT) {
                 return false;
             }
             toNextToken();
-            if (!standsSum(open + 1) || letter() != ')') {
+            if (!standsSum(open + 1) || first != ')') {
                 return false;
             }
             toNextToken();
+            if (isName(name)) {
+                addStep(name, 0);
+            }
             return true;
         }
 
@@ -916,20 +897,28 @@ public final class ShadowRowDesk {
             while (place < length && letters[place] == ' ') {
                 place++;
             }
-            end = place < length ? place + 1 : length;
-            if (isDigit(letter())) {
+            if (place >= length) {
+                first = NO_LETTER;
+                return;
+            }
+            first = letters[place];
+            end = place + 1;
+            if (isDigit(first)) {
                 while (end < length && isDigit(letters[end])) {
                     end++;
                 }
             }
         }
 
-        /** The first letter of the TOKEN looked at. */
-        private int letter() {
-            return place < length ? letters[place] : NO_LETTER;
+        private static boolean isName(int letter) {
+            return letter == 'e' || letter == 'q' || letter == 'l' || letter == 'i';
         }
 
-        /** What the row of digits looked at (four at most) tells. */
+        private boolean isNumber() {
+            return end - place <= 4 && Numbers.holds(amount());
+        }
+
+        /** What the row of digits looked at tells. */
         private int amount() {
             int total = 0;
             for (int i = place; i < end; i++) {

@@ -375,6 +375,8 @@ public final class PromisesTest {
         dueReckoned("1/(1-t)", 1, 1, 1, 1, 1, 1, 1, 1, 1);
         dueReckoned("t/(1-t)/(1-t)", 0, 1, 2, 3, 4, 5, 6, 7, 8);
         dueReckoned("(1+t)/(2-2*t)", by(1, 2), 1, 1, 1, 1, 1, 1, 1, 1);
+        dueReckoned("0+1*(".repeat(6) + "0+1*t^1" + ")".repeat(6), 0, 1);
+        dueReckoned("3-2*(".repeat(6) + "3-2*t" + ")^1".repeat(6), 129, -128);
         dueReckoned("e(0)", 1);
         dueReckoned("q(0)", 1);
         dueReckoned("1+l(0)", 1);
@@ -793,6 +795,9 @@ public final class PromisesTest {
         dueHand("swap(1, 2)", desk, 3, 0, -6, 0, 1);
         due("swap(2, 2)", desk.swap(2, 2), 3);
         dueHand("swap(2, 2)", desk, 3, 0, -6, 0, 1);
+        putAll(desk, 5, 0, 1);
+        due("swap(1, 0) of what has s0", desk.swap(1, 0), 5);
+        dueHand("swap(1, 0) of what has s0", desk, 5, -1, 1);
         String before = state(desk);
         dueFor("swap one", NO_ROWS, UNKNOWN, row -> desk.swap(row, 0));
         dueFor("swap other", NO_ROWS, UNKNOWN, row -> desk.swap(0, row));
