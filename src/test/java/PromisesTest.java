@@ -216,6 +216,12 @@ public final class PromisesTest {
         due("count(2)", desk.count(2), 0);
         letters(desk, "2;t");
         due("fault() of what is new alone", desk.fault(), NONE);
+        desk.erase();
+        letters(desk, "1;t^55");
+        due("fault() of a long N", desk.fault(), 4);
+        desk.erase();
+        letters(desk, "1;t^1");
+        due("fault() of a short N where a long one was", desk.fault(), NONE);
     }
 
     // ---- promise 4
@@ -341,6 +347,11 @@ public final class PromisesTest {
         String longest = "1;" + "t+".repeat(58) + " t";
         due("the longest TEXT", longest.length(), 120);
         due("read(1) of it", readText(desk, 1, longest), 59);
+        String digitLast = "1;" + "t+".repeat(57) + " t^1";
+        due("the longest TEXT with a digit at its end", digitLast.length(), 120);
+        due("read(1) of it too", readText(desk, 1, digitLast), 58);
+        due("the longest TEXT that ends too soon", readText(desk, 1, "1;" + "t+".repeat(59)), NOT);
+        due("its fault()", desk.fault(), 120);
     }
 
     private static void dueReckoned(String told, long... numbers) {
