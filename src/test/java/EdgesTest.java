@@ -1,5 +1,7 @@
 import java.nio.file.Files;
 import java.nio.file.Path;
+import java.util.HashSet;
+import java.util.Set;
 
 /**
  * The document's boundary cases, sentence by sentence: what is too small, too large, empty, full,
@@ -15,9 +17,10 @@ public final class EdgesTest {
     private static final String ONE_TO_NINE =
             " put(0,1) put(1,2) put(2,3) put(3,4) put(4,5) put(5,6) put(6,7) put(7,8) put(8,9) ";
 
+    private static final Set<String> SENTENCES = new HashSet<>();
+
     private static String document = "";
     private static int wrong = 0;
-    private static int sentences = 0;
     private static int runs = 0;
 
     private EdgesTest() {
@@ -50,7 +53,7 @@ public final class EdgesTest {
         askedOfHand();
         kept();
         counted();
-        System.out.println(sentences + " sentences, " + runs + " runs, " + wrong + " wrong");
+        System.out.println(SENTENCES.size() + " sentences, " + runs + " runs, " + wrong + " wrong");
         if (wrong != 0) {
             System.exit(1);
         }
@@ -62,7 +65,7 @@ public final class EdgesTest {
 
     /** A sentence of the document, and the runs that would fail if it were broken. */
     private static void edge(String sentence, String... scripts) {
-        sentences++;
+        SENTENCES.add(sentence);
         if (!document.isEmpty() && !document.contains(sentence)) {
             tell(sentence, "", "the document does not say so");
         }
